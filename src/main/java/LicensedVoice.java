@@ -1705,7 +1705,12 @@ public final class LicensedVoice {
             if (word == WHEN && !readsTestWord(place)) {
                 return false;
             }
-            return readsRest(place) && text.takes(SEMICOLON);
+            if (!readsRest(place)) {
+                return false;
+            }
+            // The NUMBER read last: that of this STEP, if it has one; else it is never asked for.
+            made.numbers[place] = text.number;
+            return text.takes(SEMICOLON);
         }
 
         private static boolean isStep(int word) {
@@ -1751,11 +1756,11 @@ public final class LicensedVoice {
         private boolean readsRest(int place) {
             switch (made.words[place]) {
                 case HOUR:
-                    return readsNumber(place, 1, 48);
+                    return text.takesNumber(1, 48);
                 case YEAR:
-                    return readsNumber(place, 1, 20);
+                    return text.takesNumber(1, 20);
                 case SELL:
-                    return readsFirst(place, SETS) && readsSecond(place, PEOPLE) && readsNumber(place, 0, MOST_PRICE);
+                    return readsFirst(place, SETS) && readsSecond(place, PEOPLE) && text.takesNumber(0, MOST_PRICE);
                 case GIVE:
                     return readsFirst(place, SETS) && readsSecond(place, PEOPLE);
                 case COLD:
@@ -1763,11 +1768,11 @@ public final class LicensedVoice {
                 case LIVES:
                     return readsFirst(place, VOICES);
                 case GLAD:
-                    return readsFirst(place, PEOPLE) && readsCompares(place) && readsNumber(place, 0, 9999);
+                    return readsFirst(place, PEOPLE) && readsCompares(place) && text.takesNumber(0, 9999);
                 case OWNS:
                     return readsFirst(place, PEOPLE) && readsSecond(place, SETS);
                 case LOOP:
-                    return readsNumber(place, 1, 99);
+                    return text.takesNumber(1, 99);
                 default:
                     return true;
             }
@@ -1783,27 +1788,21 @@ public final class LicensedVoice {
             return true;
         }
 
-        private boolean readsNumber(int place, int least, int most) {
-            if (!text.takesNumber(least, most)) {
-                return false;
-            }
-            made.numbers[place] = text.number;
-            return true;
-        }
-
         private boolean readsFirst(int place, int kind) {
-            if (!text.takesName(town, kind)) {
+            if (!text.isNameOf(town, kind)) {
                 return false;
             }
             made.firsts[place] = text.found;
+            text.advance();
             return true;
         }
 
         private boolean readsSecond(int place, int kind) {
-            if (!text.takesName(town, kind)) {
+            if (!text.isNameOf(town, kind)) {
                 return false;
             }
             made.seconds[place] = text.found;
+            text.advance();
             return true;
         }
     }
@@ -2067,7 +2066,12 @@ public final class LicensedVoice {
                 if (word == STOP) {
                     return;
                 }
-                at = placeBehind(town, at);
+                if (word >= GLAD && word <= LOOP) {
+                    at = placeBehindOpener(town, at);
+                } else {
+                    missed += does(town, at) ? 0 : 1;
+                    at++;
+                }
             }
         }
 
@@ -2080,20 +2084,12 @@ public final class LicensedVoice {
             return at + 1;
         }
 
-        /** Does a STEP; the place of the next one. */
-        private int placeBehind(Town town, int at) {
-            int word = town.dials.words[at];
-            if (word == LOOP) {
+        private int placeBehindOpener(Town town, int at) {
+            if (town.dials.words[at] == LOOP) {
                 rounds[at] = town.dials.numbers[at];
                 return at + 1;
             }
-            if (word == GLAD || word == LIVES || word == OWNS) {
-                return holds(town, at) ? at + 1 : town.dials.mates[at] + 1;
-            }
-            if (!does(town, at)) {
-                missed++;
-            }
-            return at + 1;
+            return holds(town, at) ? at + 1 : town.dials.mates[at] + 1;
         }
 
         private static boolean holds(Town town, int at) {
