@@ -57,6 +57,7 @@ public final class AheadTest {
         check.refused("by", x, x.gladBy(0, 401), 8);
         check.due("by the last", x.gladBy(2, 2700), 300);
         check.refused("by", x, x.gladBy(2, 2701), 8);
+        check.refused("by", x, x.gladBy(0, 9999), 8);
         check.refused("by", x, x.gladBy(0, 10000), 5);
         check.refused("by", x, x.gladBy(0, -1), 5);
         check.refused("by", x, x.gladBy(3, 0), 2);

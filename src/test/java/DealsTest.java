@@ -12,6 +12,7 @@ public final class DealsTest {
         bestOfSeveral();
         trades();
         tradesInRounds();
+        tradesByOne();
         envy();
         picks();
         pickFaults();
@@ -116,6 +117,16 @@ public final class DealsTest {
         check.due("pa", x.trade(0), 2);
         check.due("pb", x.trade(1), 1);
         check.due("two", x.trades(), 2);
+    }
+
+    /** In 12 hours u says a three times, v twice; b nine times, v ten times. */
+    private static void tradesByOne() {
+        LicensedVoice x = Check.inTown("subject a;subject b;voice u age 1 life 2 says a b b b b;voice v age 1 life 2 says a b b b b b b b;"
+                + "person p;person q;likes p a 1;likes q b 1;set e gets v for p;set f gets u for q;");
+        check.due("p", x.trade(0), 1);
+        check.due("q", x.trade(1), 0);
+        check.due("both", x.trades(), 2);
+        check.due("p envies q", x.envies(0, 1), 1);
     }
 
     private static void envy() {
