@@ -6,7 +6,20 @@ final class Check {
             + "likes ben rain 3;likes cyd rain 9;likes cyd god 1;set oak gets cantor for ben;"
             + "set tin gets fishman for ann;set box gets aunt flaw cantor;set old gets fishman flaw aunt for cyd;";
 
+    /** Six of each, rows of 1 to 8, 900 bytes with the last one. */
+    static final String FULL = full();
+
     private int wrong = 0;
+
+    private static String full() {
+        String text = "odds 16;subject a;subject b;subject c;subject d;subject e;subject f;"
+                + "voice g age 0 life 1 says a;voice h age 119 life 120 says b a;voice i age 5 life 9 says c d e;"
+                + "voice j age 7 life 9 says a b c d e f a b;voice k age 1 life 99 says f;voice l age 30 life 70 says f e d c b;"
+                + "person m coins 0;person n coins 999;person o;person p coins 7;person q coins 20;person r coins 1;"
+                + "set s gets g for m;set t gets h flaw g;set u gets i flaw l for n;set v gets j;set w gets k for r;set x gets l flaw k for r;"
+                + "likes m a 9;likes m f 1;likes n c 5;likes n d 4;likes o b 6;likes o e 9;likes p f 3;likes q a 2;likes r f 9;likes r b 7;";
+        return text + " ".repeat(888 - text.length()) + "likes r a 9;";
+    }
 
     void due(String what, long got, long want) {
         if (got != want) {
