@@ -1,3 +1,5 @@
+import java.util.List;
+
 /** What all tests share: answers that are due, texts brought to the tape, the town most tests begin with. */
 final class Check {
     static final String TOWN = "odds 4;subject fish;subject god;subject rain;voice cantor age 60 life 70 says god rain;"
@@ -30,6 +32,13 @@ final class Check {
 
     void due(String what, boolean got, boolean want) {
         due(what, got ? 1 : 0, want ? 1 : 0);
+    }
+
+    void due(String what, List<Long> got, List<Long> want) {
+        if (!got.equals(want)) {
+            wrong++;
+            System.out.println(what + " told " + got + ", due is " + want);
+        }
     }
 
     /** A call that is refused: NONE, and its STATUS. */
