@@ -140,6 +140,27 @@ public final class ChosenTest {
         check.due("the last two in the third round", x.trades(), 6);
         check.due("pe", x.trade(4), 5);
         check.due("pf", x.trade(5), 4);
+        // Others own the SETS the other way round: of several the first SET, not that of the first PERSON.
+        LicensedVoice z = Check.inTown(SIX);
+        z.give(3, 0);
+        z.give(1, 1);
+        z.give(2, 2);
+        z.give(5, 3);
+        z.please(3, 1, 4);
+        z.please(3, 2, 4);
+        z.please(3, 3, 4);
+        z.please(1, 5, 1);
+        check.due("the first SET", z.trade(3), 1);
+        check.due("whose PERSON takes the last", z.trade(1), 5);
+        check.due("the first PERSON stays", z.trade(0), 3);
+        z.please(0, 5, 1);
+        check.due("the first SET, though both want the last", z.trade(3), 1);
+        check.due("who has it gets the last", z.trade(1), 5);
+        check.due("the other does not", z.trade(0), 3);
+        z.please(1, 5, 0);
+        check.due("in the second round, as the two first SETS are gone", z.trade(0), 5);
+        check.due("the third of these", z.trade(3), 3);
+        check.due("both", z.trades(), 2);
         // All want the same ones: one leaves in each round, with his own.
         LicensedVoice y = Check.inTown(SIX);
         for (int p = 0; p < 6; p++) {
@@ -175,6 +196,11 @@ public final class ChosenTest {
         check.due("one of the other's, to the last", x.envies(5, 0), 0);
         x.please(5, 1, 9);
         check.due("to the last", x.envies(5, 0), 1);
+        LicensedVoice y = Check.inTown("subject a;subject b;voice v age 1 life 2 says b b b b a b b b;voice w age 1 life 2 says b;"
+                + "person p;person q;likes p a 1;set s gets v for q;set t gets w for p;");
+        check.due("1 against 0", y.envies(0, 1), 1);
+        y.dump(1);
+        check.due("1 against nothing", y.envies(0, 1), 1);
     }
 
     private static void picks() {
@@ -323,7 +349,13 @@ public final class ChosenTest {
         x.please(4, 3, 2);
         check.due("of two that which all LIKE more together", x.peace(63), 3);
         check.due("of who is in the set", x.peace(7), 2);
-        check.due("the first PERSON alone", x.peace(1), 2);
+        x.please(0, 3, 2);
+        x.please(4, 2, 2);
+        check.due("4 and 2 more of the first PERSON", x.peace(17), 3);
+        check.due("4 and 3", x.peace(1 + 2 + 16), 3);
+        x.please(4, 3, 1);
+        check.due("3 and 3, the first", x.peace(1 + 2 + 16), 2);
+        check.due("the first PERSON alone", x.peace(1), 3);
         check.due("the last PERSON alone", x.peace(32), 5);
         check.due("the last PERSON alone", x.peaceBy(32), 8);
     }
@@ -388,6 +420,15 @@ public final class ChosenTest {
             x.give(s, s);
         }
         check.due("nobody's are none", x.game(0, 5, 5), 0);
+        // The first can't keep both sb and sa from the second: f, then 8, then sa, then 3 times 12.
+        LicensedVoice z = Check.inTown(SIX);
+        int[] wants = {3, 3, 0, 0, 8, 9};
+        for (int s = 0; s < 6; s++) {
+            z.please(1, s, wants[s]);
+        }
+        check.due("four turns", z.game(0, 1, 4), -132);
+        check.due("five turns", z.game(0, 1, 5), -132);
+        check.due("the last SET", z.moveOf(0, 1, 4), 5);
         // 0 to p, 1 to q of one subject heard in one of 12 hours: -1.
         LicensedVoice y = Check.inTown("subject a;subject b;voice v age 1 life 2 says b b b b a b b b;person p;person q;likes q a 1;"
                 + "set s gets v;set t gets v;");

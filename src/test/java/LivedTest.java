@@ -438,6 +438,7 @@ public final class LivedTest {
         x.cold(5, true);
         List<Long> before = Twin.town(x);
         check.due("mark", x.mark(), 1);
+        x.hour(50);
         x.rule(3);
         x.sell(5, 1, 9);
         x.sell(0, 4, 3);
@@ -488,6 +489,8 @@ public final class LivedTest {
         x.tray(0, 0, 1);
         x.back();
         check.due("the TOWN ahead", Twin.town(x), full);
+        check.due("all NAMES", Check.dials(x, "give s m;give x r;give t n;cold g;cold l;when owns r x;end;"), 6);
+        check.refused("a NAME that was not", x, Check.dials(x, "cold a;"), 10);
         check.due("TRAYS stay", x.write(0, 0, 1), true);
         x.back();
         check.due("the TOWN ahead of it", Twin.town(x), one);

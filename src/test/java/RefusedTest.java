@@ -423,6 +423,12 @@ public final class RefusedTest {
             x.write(0, 3, -1);
             x.write(0, 4, 1L << 32);
         });
+        Twin twice = new Twin(check, "twice", x -> {
+            Check.town(x, Check.TOWN);
+            x.tray(0, 3, 6);
+            x.write(0, 1, 1);
+        });
+        twice.refused("pick of one PERSON twice, one between", 5, x -> x.pick(0, 3, 0));
         row.refused("pick of who gets none", 8, x -> x.pick(0, 2, 1));
         row.refused("pick of PERSON 2 of two", 5, x -> x.pick(0, 3, 0));
     }

@@ -115,6 +115,18 @@ public final class TokensTest {
         Check.tape(x, steps + " ");
         check.refused("DIALS of 301", x, x.dials(301), 5);
         check.due("the first 299", x.dials(299), 2);
+        Check.tape(x, "odds 16;");
+        check.refused("a NUMBER cut off", x, x.town(6), 10);
+        check.due("the end", x.fault(1), 6);
+        Check.tape(x, "odds 12345;");
+        check.refused("4 digits of 5", x, x.town(9), 10);
+        check.due("a NUMBER that can't be", x.fault(0), 4);
+        Check.tape(x, "subject abcdefghi;");
+        check.refused("8 letters of 9", x, x.town(16), 10);
+        check.due("the end", x.fault(1), 16);
+        Check.tape(x, "subject a;odds 3;");
+        check.refused("a WORD cut off", x, x.town(13), 10);
+        check.due("no such PART", x.fault(1), 10);
         Check.tape(x, steps + " ");
         check.refused("the first 298", x, x.dials(298), 10);
         check.due("the end", x.fault(1), 298);
@@ -169,6 +181,8 @@ public final class TokensTest {
     private static void wordsAsLong() {
         town("subject a;subject abcdefgh;subject abcdefg;subject abcdefgi;subject bbcdefgh;subject hgfedcba;", 0);
         check.townFault("subject abcdefgh;subject abcdefgh;", 3, 25);
+        town("subject q;subject aa;subject a;subject p;subject ap;subject ba;", 0);
+        town("subject z;subject az;person aza;person aaz;person zaaaaaaa;person azaaaaaa;", 0);
         check.townFault("subject abcdefghi;", 2, 8);
         check.townFault("subject " + "z".repeat(800) + ";", 2, 8);
         check.townFault(S + "person pp;likes abcdefghi s 1;", 2, 26);
@@ -234,6 +248,18 @@ public final class TokensTest {
             check.dialsFault("give " + word + " ann;", 2, 5);
             check.dialsFault("give oak " + word + ";", 2, 9);
             check.dialsFault("when lives " + word + ";", 2, 11);
+            boolean begins = " hour year sell give cold well any when loop stop ".contains(" " + word + " ");
+            if (!begins) {
+                check.dialsFault(word + ";", 2, 0);
+                check.dialsFault("any; " + word + ";", 2, 5);
+            } else if (!word.equals("any") && !word.equals("stop")) {
+                check.dialsFault(word + ";", 2, word.length());
+            }
+            if (!" odds subject voice person likes set ".contains(" " + word + " ")) {
+                check.townFault(word + ";", 2, 0);
+            } else {
+                check.townFault(word + ";", 2, word.length());
+            }
             town("subject " + word + "x;", 0);
             town("subject x" + word + ";", 0);
             town("subject " + word.substring(1) + "q;", 0);
@@ -355,6 +381,8 @@ public final class TokensTest {
         check.dialsFault("when glad ann < ann; end;", 2, 16);
         check.dialsFault("when glad ann < 5 end;", 2, 18);
         check.dialsFault("when hour; end;", 2, 5);
+        check.dialsFault("when; end;", 2, 4);
+        check.dialsFault("when 5; end;", 2, 5);
         check.dialsFault("when aunt; end;", 2, 5);
         check.dialsFault("glad ann < 5;", 2, 0);
         check.dialsFault("lives aunt;", 2, 0);
@@ -485,6 +513,10 @@ public final class TokensTest {
         dials(" \n ", 0);
         dials("any;", 1);
         dials("loop 1;end;".repeat(27), 27);
+        dials("loop1;end;".repeat(30), 30);
+        LicensedVoice x = Check.inTown(Check.TOWN);
+        check.due("300 bytes, 30 STEPS, 30 ends", Check.dials(x, "loop9;end;".repeat(29) + "loop9;end;"), 30);
+        check.due("all are come to", x.live(0), 30);
         dials("loop 1;end;".repeat(15) + "any;".repeat(15), 30);
     }
 
@@ -511,6 +543,12 @@ public final class TokensTest {
         check.dialsFault("loop 1;end any;", 2, 11);
         check.dialsFault("any;".repeat(30) + "end;", 2, 120);
         dials("loop 1;end;loop 2;end;", 2);
+        LicensedVoice x = Check.inTown(Check.TOWN);
+        check.refused("a FAULT within two", x, Check.dials(x, "loop 1;loop 2;any"), 10);
+        check.refused("an end of nothing", x, Check.dials(x, "end;"), 10);
+        check.due("at once", x.fault(1), 0);
+        check.refused("a FAULT within three", x, Check.dials(x, "loop 1;loop 2;loop 3;loop 4;"), 10);
+        check.due("three within", Check.dials(x, "loop 1;loop 2;loop 3;end;end;end;"), 3);
     }
 
     // ---- DIALS and TOWN
@@ -545,7 +583,8 @@ public final class TokensTest {
     /** Nothing of TOWNS ahead is left, however many there were. */
     private static void townsInTurn() {
         LicensedVoice x = new LicensedVoice();
-        String[] towns = {Check.FULL, Check.TOWN, "subject s;person p;", "", VP + "set q gets v flaw w for p;", Check.TOWN};
+        String six = "subject a;subject b;subject c;subject d;subject e;subject f;person m;person n;person o;person p;person q;person r;";
+        String[] towns = {Check.FULL, "", six, Check.FULL, Check.TOWN, "subject s;person p;", "", VP + "set q gets v flaw w for p;", Check.TOWN};
         for (int round = 0; round < 2; round++) {
             for (String text : towns) {
                 LicensedVoice y = new LicensedVoice();
@@ -554,9 +593,9 @@ public final class TokensTest {
                 check.due("as in a new object", Twin.town(x).equals(Twin.town(y)), true);
                 check.refused("no DIALS", x, x.live(1), 8);
                 Check.dials(x, "hour 9;year 20;any;");
+                x.cold(0, true);
                 x.rule(9);
                 x.live(5);
-                x.cold(0, true);
                 x.flaw(0, 1);
                 x.give(0, 0);
                 x.please(0, 0, 8);
