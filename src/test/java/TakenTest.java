@@ -372,6 +372,10 @@ public final class TakenTest {
         check.refused("never LONELY", x, x.lonelyIn(0), 8);
         x.dump(0);
         check.due("LONELY from now on", x.lonelyIn(0), 0);
+        LicensedVoice y = Check.inTown("subject a;subject b;voice v age 1 life 2 says a b a;person p;set s gets v for p;");
+        check.refused("not GLAD, but never LONELY", y, y.lonelyIn(0), 8);
+        y.cold(0, true);
+        check.due("LONELY now", y.lonelyIn(0), 0);
         check.due("not more GLAD", x.gladIn(0, 300), 10008);
     }
 
